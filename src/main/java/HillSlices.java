@@ -879,12 +879,14 @@ public final class HillSlices {
         }
 
         /** Tries all HEIRS of the arcs from one on, by numbers rising, but those used already. */
-        private void chooseHeirs(int arc, int used, int least) {
+        private void chooseHeirs(int arc, int used, int leastBefore) {
             for (int heir = 0; heir < n && !isSettled(); heir++) {
                 int share = shares[arc * MOST_ARCS + heir];
-                if ((used >> heir & 1) == 0 && isEnough(heir, share) && !(fair && isEnvious(heir, share))) {
+                int least = Math.min(leastBefore, share);
+                boolean can = fair ? !isEnvious(heir, share) : least > leastShare;
+                if ((used >> heir & 1) == 0 && can) {
                     heirs[arc] = heir;
-                    chooseBehind(arc, used | 1 << heir, Math.min(least, share));
+                    chooseBehind(arc, used | 1 << heir, least);
                 }
             }
         }

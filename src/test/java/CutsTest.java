@@ -193,6 +193,13 @@ public final class CutsTest {
         y.worth(1, 'w', 0);
         y.worth(0, 'w', 99);
         cutIs(y, false, 2, 198, 1, 21, 1, 0);
+        // The least share is a's, whichever of b and c has which arc: b has the first one of them.
+        HillSlices z = vinesAt("w1v9v9v5");
+        z.worth(0, 'v', 0);
+        z.worth(0, 'w', 1);
+        z.worth(1, 'w', 0);
+        z.worth(2, 'w', 0);
+        cutIs(z, false, 3, 1, 0, 1, 2, 0, 1, 2);
     }
 
     private static void bestOfZero() {
