@@ -18,6 +18,8 @@ public final class HillSlices {
     private static final int MOST_GENERATIONS = 20, MOST_WORTH = 99, MOST_TOLL = 99, MOST_YEARS = 999;
     private static final int LEAST_ARCS = 2, MOST_ARCS = 4;
     private static final int ALL_SECTORS = (1 << SECTORS) - 1;
+    /** More than anything here can cost or be worth. */
+    private static final int BEYOND = 1 << 30;
 
     private final Pad pad = new Pad();
     private final Hill hill = new Hill();
@@ -377,7 +379,7 @@ public final class HillSlices {
     /** The cost, the RING or the side of the WAY. */
     private int bestWay(int heir, int from, int to, int what) {
         // One number orders all ways as the document does: by cost, then by RING, then rising.
-        int least = Integer.MAX_VALUE;
+        int least = BEYOND;
         for (int ring = 0; ring < RINGS; ring++) {
             int rising = costOfWay(heir, from, to, ring);
             int falling = costOfWayBack(heir, from, to, ring);
@@ -817,7 +819,7 @@ public final class HillSlices {
             for (int cut = 0; cut < MOST_CUTS && more && !isSettled(); cut++) {
                 int useless = firstArcOfNoUse();
                 if (useless == n) {
-                    chooseHeirs(0, 0, Integer.MAX_VALUE);
+                    chooseHeirs(0, 0, BEYOND);
                 }
                 more = stepBounds(Math.min(useless + 1, n - 1));
             }

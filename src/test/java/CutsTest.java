@@ -154,6 +154,10 @@ public final class CutsTest {
         y.worth(2, 'v', 0);
         y.worth(2, 'w', 0);
         cutIs(y, true, 3, 1, 0, 1, 5, 2, 0, 1);
+        // c does not care for vines, of which a and b have two each: c has an arc all the same.
+        HillSlices z = vinesAt("v4r9r9r2");
+        z.worth(2, 'v', 0);
+        cutIs(z, true, 3, 1, 0, 2, 4, 0, 1, 2);
     }
 
     private static void fairNone() {

@@ -21,6 +21,7 @@ public final class FencesTest {
         narrow();
         wrongImages();
         image();
+        imageOfAllGenerations();
         imagesOfTwo();
         imageIsNotThePad();
         told();
@@ -251,6 +252,23 @@ public final class FencesTest {
         DUE.is("told(1)", x.told(1), 1);
         DUE.is("told(2)", x.told(2), 42);
         DUE.is("has(3)", x.has(3), 511 << 9);
+    }
+
+    private static void imageOfAllGenerations() {
+        HillSlices x = new HillSlices();
+        for (int generation = 1; generation <= 20; generation++) {
+            x.wedding(generation % 6, (generation + 5) % 6);
+        }
+        x.image(0);
+        Due.slices(x, "f9f9f6");
+        for (int generation = 1; generation <= 20; generation++) {
+            x.wedding((generation + 5) % 2, generation % 2);
+        }
+        x.restore(0);
+        for (int generation = 0; generation <= 20; generation++) {
+            DUE.is("was(0, " + generation + ")", x.was(0, generation), generation % 6);
+        }
+        DUE.is("has(2)", x.has(2), 16777215);
     }
 
     private static void imagesOfTwo() {
