@@ -1,8 +1,17 @@
+import java.util.ArrayList;
+import java.util.List;
+import java.util.Set;
+import java.util.TreeSet;
+
 /** Counts the answers that are not the ones that are due, and tells them. */
 final class Due {
     private final String test;
+    private final List<String> told = new ArrayList<>();
+    private final Set<String> sentences = new TreeSet<>();
+    private final Set<String> wrongSentences = new TreeSet<>();
+    /** The sentence whose test runs; empty in tests that are not of one sentence. */
+    private String sentence = "";
     private int right;
-    private int wrong;
 
     Due(String test) {
         this.test = test;
@@ -12,21 +21,58 @@ final class Due {
         if (got == want) {
             right++;
         } else {
-            wrong++;
-            System.out.println(test + ": " + call + " answered " + got + ", due is " + want);
+            tell(call + " answered " + got + ", due is " + want);
         }
+    }
+
+    private void tell(String what) {
+        told.add(test + ": " + (sentence.isEmpty() ? "" : sentence + ": ") + what);
+    }
+
+    /** Runs the test of one sentence of the document, told by its place there and its words. */
+    void sentence(String place, String words, Runnable testOfIt) {
+        sentence = place + ": " + words;
+        int wrongBefore = told.size();
+        int rightBefore = right;
+        if (!sentences.add(sentence)) {
+            tell("has two tests");
+        }
+        try {
+            testOfIt.run();
+        } catch (RuntimeException thrown) {
+            // No call may ever throw, so this is a wrong answer as well.
+            tell("threw " + thrown);
+        }
+        if (told.size() == wrongBefore && right == rightBefore) {
+            tell("nothing is tested");
+        }
+        if (told.size() > wrongBefore) {
+            wrongSentences.add(sentence);
+        }
+        sentence = "";
+    }
+
+    Set<String> sentences() {
+        return sentences;
+    }
+
+    Set<String> wrongSentences() {
+        return wrongSentences;
     }
 
     /** Ends the test: with exit code 1 if an answer was not as due. */
     void end() {
-        System.out.println(test + ": " + right + " right, " + wrong + " wrong");
-        if (wrong != 0 || right == 0) {
+        for (String what : told) {
+            System.out.println(what);
+        }
+        System.out.println(test + ": " + right + " right, " + told.size() + " wrong");
+        if (hasWrong() || right == 0) {
             System.exit(1);
         }
     }
 
     boolean hasWrong() {
-        return wrong != 0;
+        return !told.isEmpty();
     }
 
     /** Says a whole text; the PAD must have room for it. */
