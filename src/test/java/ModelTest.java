@@ -1,6 +1,8 @@
 /** Long runs of calls, each compared with what the model answers: mostly good calls, some wrong ones. */
 public final class ModelTest {
-    private static final int RUNS = 200, CALLS = 512;
+    /** No answer is promised behind the last of so many calls: a run must not ask for any. */
+    private static final int CALLS = 512;
+    private static final int RUNS = 200, CALLS_OF_SWEEP = 132, MOST_CALLS_OF_STEP = 68;
     private static final int[] STRANGE = {-1, 24, 5, 6, 100, -2, 1000, Integer.MIN_VALUE, Integer.MAX_VALUE};
     private static final int[] ASKED_OF_CUTS = {-2, -1, 0, 1, 2, 3, 4, 9, 10, 11, 12, 13, 14};
     private static final Due DUE = new Due("ModelTest");
@@ -28,7 +30,7 @@ public final class ModelTest {
         x = new HillSlices();
         model = new Model();
         boolean small = run % 2 == 0;
-        while (calls < CALLS - 170 && !DUE.hasWrong()) {
+        while (calls <= CALLS - CALLS_OF_SWEEP - MOST_CALLS_OF_STEP && !DUE.hasWrong()) {
             int kind = number(16);
             if (kind < 4) {
                 change(small);
@@ -54,6 +56,9 @@ public final class ModelTest {
 
     private void is(String call, int got, int want) {
         calls++;
+        if (calls > CALLS) {
+            DUE.is("calls of one object", calls, CALLS);
+        }
         DUE.is("seed " + seed + ", call " + calls + ", " + call, got, want);
     }
 
